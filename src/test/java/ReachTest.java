@@ -5,6 +5,8 @@ public final class ReachTest {
 
     public static void main(String[] args) {
         reachAndAmong();
+        eachCallSearchesAnew();
+        clauseNoughtIsNotBarred();
         allStates();
         shortest();
         firstByActs();
@@ -34,6 +36,37 @@ public final class ReachTest {
         CHECK.due("19: nothing is done", x.count(3), 0);
         x.thing(1, true);
         CHECK.due("19: from the state as it is now", x.reach(1), 2);
+    }
+
+    private static void eachCallSearchesAnew() {
+        SelfLaw x = Laws.of("D0,1,0+", "D0,2,0+");
+        x.seats(0, 0, 1);
+        x.seats(0, 1, 1);
+        CHECK.due("20: with no search ahead of it", x.among(1, 1), 1);
+        x.stand(0, 0);
+        CHECK.due("20: by another state", x.among(1, 1), 0);
+        CHECK.due("20: by another set", x.among(3, 1), 1);
+        x.seats(0, 1, 0);
+        CHECK.due("20: by other seats", x.among(3, 1), 0);
+    }
+
+    /** Nothing is barred but by a BAR: clause 0 neither. */
+    private static void clauseNoughtIsNotBarred() {
+        SelfLaw x = Laws.of("B4", "S0,1,0", "C0,1,0");
+        Laws.tell(x, 0, "B3");
+        x.seats(0, 0, 1);
+        CHECK.due("15: strike it, put it", x.acts(1), 2);
+        CHECK.due("16: put it", x.which(1, 1), 220);
+        CHECK.due("17: why", x.why(1, 100), 0);
+        CHECK.due("19: reach", x.reach(1), 3);
+        CHECK.due("20: among", x.among(1, 100), 1);
+        CHECK.due("21: shortest", x.shortest(1, 102), 1);
+        CHECK.due("24: forGood", x.forGood(101), 0);
+        CHECK.due("26: hold", x.hold(1, 101), 0);
+        CHECK.due("27: hangs", x.hangs(1, 101), NONE);
+        CHECK.due("28: remedy", x.remedy(1, 101), 0);
+        CHECK.due("29: sure against the other", x.sure(0, 1, 101, 1), 0);
+        CHECK.due("29: sure by the one", x.sure(1, 0, 100, 1), 1);
     }
 
     private static void allStates() {
@@ -116,6 +149,13 @@ public final class ReachTest {
         CHECK.due("23: the least of two pairs", x.who(11), 3);
         CHECK.due("23: by getting seats", x.who(21), 11);
         CHECK.due("23: never", x.who(31), NONE);
+        x.stand(0, 0);
+        x.stand(1, 0);
+        Laws.tell(x, 0, "D0,12,3+");
+        x.stand(0, 2);
+        CHECK.due("23: all four", x.who(31), 15);
+        x.stand(0, 1);
+        x.stand(1, 1);
         x.seats(0, 3, 4);
         CHECK.due("23: pairs now", x.who(1), 3);
         x.seats(0, 0, 0);

@@ -124,6 +124,11 @@ public final class RollTest {
         CHECK.due("37: things", x.count(3), 2);
         CHECK.due("37: rows", x.count(4), 1);
         CHECK.due("37: in force", x.count(5), 2);
+        x.thing(0, true);
+        CHECK.due("37: clauses 0 and 1 in force", x.count(5), 2);
+        x.stand(1, 0);
+        CHECK.due("37: clause 0 in force", x.count(5), 1);
+        CHECK.due("37: two stand", x.count(2), 2);
         CHECK.due("37: 6", x.count(6), BAD);
         CHECK.due("37: -1", x.count(-1), BAD);
     }

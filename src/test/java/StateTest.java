@@ -115,6 +115,11 @@ public final class StateTest {
             }
             CHECK.due("14: is(" + goal + ")", x.is(goal), want);
         }
+        x = Laws.of("B1");
+        CHECK.due("14: clause 0 is not struck", x.is(100), 0);
+        CHECK.due("14: clause 0 stands", x.is(101), 1);
+        x.thing(0, true);
+        CHECK.due("14: thing 0 is so", x.is(0), 0);
         CHECK.due("14: is of the greatest", x.is(Integer.MAX_VALUE), BAD);
         CHECK.due("14: is of the least", x.is(Integer.MIN_VALUE), BAD);
     }

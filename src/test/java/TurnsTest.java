@@ -5,6 +5,7 @@ public final class TurnsTest {
 
     public static void main(String[] args) {
         lastWord();
+        otherStatesOfTheOther();
         race();
         begin();
         leastAct();
@@ -26,6 +27,18 @@ public final class TurnsTest {
         CHECK.due("29: the other can not bring it about", x.sure(2, 2, 0, 1), 1);
         CHECK.due("29: it can", x.sure(2, 1, 0, 8), 0);
         CHECK.due("29: nothing is done", x.count(3), 0);
+    }
+
+    private static void otherStatesOfTheOther() {
+        // What only the other can come to counts too: there the goal is still so, or is not.
+        SelfLaw x = Laws.of("D0,1,0+", "D1,1,3+", "D1,1,2+", "D1,1,0-?3+");
+        x.seats(0, 0, 1);
+        x.seats(1, 1, 1);
+        CHECK.due("29: the other does something else", x.sure(1, 2, 1, 1), 1);
+        CHECK.due("30: at once", x.begin(1, 2, 1, 1), 0);
+        CHECK.due("29: in two turns the other undoes it", x.sure(1, 2, 1, 2), 0);
+        CHECK.due("29: nobody against the other", x.sure(0, 2, 10, 8), 1);
+        CHECK.due("29: nobody against the other", x.sure(0, 2, 30, 1), 0);
     }
 
     private static void race() {
@@ -124,6 +137,17 @@ public final class TurnsTest {
         x = Laws.of("D0,1,0+", "C0,1,0");
         x.seats(0, 0, 1);
         CHECK.due("31: it can not be put to a form", x.idle(1, 0), 0);
+        // The row in which nothing is so counts like each other one.
+        x = Laws.of("D0,1,0-");
+        x.seats(0, 0, 1);
+        x.thing(0, true);
+        CHECK.due("31: needed to undo the only thing", x.idle(1, 0), 0);
+        // More states, but of the same rows of things.
+        x = Laws.of("C0,1,1", "");
+        Laws.tell(x, 1, "B4");
+        x.seats(0, 0, 1);
+        CHECK.due("19: it is used", x.reach(1), 2);
+        CHECK.due("31: but moves no thing", x.idle(1, 0), 1);
         // The same number of rows, but not the same ones.
         x = Laws.of("D0,1,0+?=1,1", "B4", "D0,1,1+?=1,0");
         x.seats(0, 0, 1);
