@@ -426,26 +426,28 @@ public final class SelfLaw {
      */
     private static final class State {
         static final int THINGS_FROM = 2 * CLAUSES;
-        static final int ALL = 1 << THINGS_FROM + THINGS;
+        static final int ALL = 1 << (THINGS_FROM + THINGS);
 
         static int formOf(int state, int clause) {
-            return state >> 2 * clause & 3;
+            return (state >> (2 * clause)) & 3;
         }
 
         static int put(int state, int clause, int form) {
-            return state & ~(3 << 2 * clause) | (form & 3) << 2 * clause;
+            int place = 2 * clause;
+            return (state & ~(3 << place)) | ((form & 3) << place);
         }
 
         static int thingOf(int state, int thing) {
-            return state >> THINGS_FROM + thing & 1;
+            return (state >> (THINGS_FROM + thing)) & 1;
         }
 
         static int make(int state, int thing, int so) {
-            return state & ~(1 << THINGS_FROM + thing) | (so & 1) << THINGS_FROM + thing;
+            int place = THINGS_FROM + thing;
+            return (state & ~(1 << place)) | ((so & 1) << place);
         }
 
         static int thingsOf(int state) {
-            return state >> THINGS_FROM & (1 << THINGS) - 1;
+            return (state >> THINGS_FROM) & ((1 << THINGS) - 1);
         }
 
         static int howManyStand(int state) {
@@ -550,7 +552,7 @@ public final class SelfLaw {
                 return FULL;
             }
             for (int i = n - 1; i >= 0 && length < MOST_BYTES; i--) {
-                bytes[length] = (int) (v >>> 8 * i & 255);
+                bytes[length] = (int) ((v >>> (8 * i)) & 255);
                 length++;
             }
             return length;
@@ -773,7 +775,7 @@ public final class SelfLaw {
             int all = 0;
             for (int group = 0; group < GROUPS; group++) {
                 int place = body * GROUPS + group;
-                if ((set >> group & 1) == 1 && place >= 0 && place < ownSeats.length) {
+                if (((set >> group) & 1) == 1 && place >= 0 && place < ownSeats.length) {
                     all += ownSeats[place];
                 }
             }
@@ -855,7 +857,7 @@ public final class SelfLaw {
             int letter = law.part(row + LETTER);
             if (letter == BAR) {
                 barred |= 1 << law.part(row + FIRST);
-            } else if (letter == SEATS && (groups >> law.part(row + SECOND) & 1) == 1) {
+            } else if (letter == SEATS && ((groups >> law.part(row + SECOND)) & 1) == 1) {
                 addVotes(law.part(row + FIRST), law.part(row + THIRD));
             }
         }
@@ -881,13 +883,13 @@ public final class SelfLaw {
             if (!gives(letter, target, Act.formOf(act))) {
                 return NOT_GIVEN;
             }
-            if ((forced >> clause & 1) == 0) {
+            if (((forced >> clause) & 1) == 0) {
                 return NOT_IN_FORCE;
             }
             if (votesIn(law.part(row + FIRST)) < law.part(row + SECOND)) {
                 return TOO_FEW;
             }
-            if (letter != DO && (barred >> target & 1) == 1) {
+            if (letter != DO && ((barred >> target) & 1) == 1) {
                 return BARRED;
             }
             return after(act) == now ? NOTHING_NEW : MAY;
@@ -920,7 +922,7 @@ public final class SelfLaw {
             mays = 0;
             for (int i = 0; i < Act.ALL; i++) {
                 int act = Act.nth(i);
-                boolean works = (forced >> Act.clauseOf(act) & 1) == 1;
+                boolean works = ((forced >> Act.clauseOf(act)) & 1) == 1;
                 if (works && whyNot(act) == MAY && mays < Act.ALL) {
                     mayActs[mays] = act;
                     mayEnds[mays] = after(act);
@@ -1007,7 +1009,7 @@ public final class SelfLaw {
         private void spread(int state, Sight sight) {
             sight.list(state);
             for (int i = 0; i < sight.howManyMay() && i < Act.ALL; i++) {
-                comeTo(sight.mayComeTo(i), state << ACT_BITS | sight.mayDo(i));
+                comeTo(sight.mayComeTo(i), (state << ACT_BITS) | sight.mayDo(i));
             }
         }
 
@@ -1058,11 +1060,11 @@ public final class SelfLaw {
             for (int last = steps - 1; last > i && State.exists(state); last--) {
                 state = from[state] >> ACT_BITS;
             }
-            return State.exists(state) ? from[state] & (1 << ACT_BITS) - 1 : NONE;
+            return State.exists(state) ? from[state] & ((1 << ACT_BITS) - 1) : NONE;
         }
 
         boolean isMarked(int state, int bit) {
-            return State.exists(state) && (marks[state] >> bit & 1) == 1;
+            return State.exists(state) && ((marks[state] >> bit) & 1) == 1;
         }
 
         private void mark(int state, int bit) {
