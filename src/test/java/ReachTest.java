@@ -203,6 +203,13 @@ public final class ReachTest {
         x.seats(1, 3, 1);
         CHECK.due("25: another one can undo it", x.trap(1, 1), NONE);
         CHECK.due("21: though it is reached", x.shortest(1, 1), 1);
+        // A search from the state in which all is struck leaves nothing behind for one that finds none.
+        x = new SelfLaw();
+        CHECK.due("25: all struck", x.trap(15, 11), NONE);
+        CHECK.due("25: all struck", x.trap(15, 10), 0);
+        Laws.tell(x, 0, "D0,1,1+");
+        x.stand(0, 1);
+        CHECK.due("25: none", x.trap(15, 11), NONE);
         // Far ends: one step spoils it at the end of a long row.
         x = Laws.of("D0,1,0+", "D0,1,1+?0+", "D0,1,2+?1+", "D0,1,3-?2+");
         x.seats(0, 0, 1);

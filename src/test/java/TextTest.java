@@ -132,6 +132,8 @@ public final class TextTest {
         fault("X", 0);
         fault("c0,1,1", 0);
         fault(" C0,1,1", 0);
+        fault("0,1,1", 0);
+        fault("?1+", 0);
         fault("C,1,1", 1);
         fault("C-1", 1);
         fault("C0.1", 2);
