@@ -15,6 +15,8 @@ public final class NoThrowTest {
         "C0,1,0", "C0,2,1", "C0,1,2?0+", "C1,1,3", "C0,1,4", "S0,1,0", "S0,1,3", "D0,1,0+", "D0,1,1+?=4,0", "D0,1,2-",
         "D0,1,3+", "B0?3-", "B4", "V0,0,1", "V1,2,99?=0,1",
     };
+    /** With those that tell the law an object is called 512 times at most. */
+    private static final int CALLS = 400;
     private static final Check CHECK = new Check("NoThrowTest");
 
     public static void main(String[] args) throws Exception {
@@ -22,9 +24,9 @@ public final class NoThrowTest {
         methods = Arrays.stream(methods).filter(m -> java.lang.reflect.Modifier.isPublic(m.getModifiers()))
                 .sorted(Comparator.comparing(Method::getName)).toArray(Method[]::new);
         Random random = new Random(7);
-        for (int run = 0; run < 60; run++) {
+        for (int run = 0; run < 80; run++) {
             SelfLaw x = someLaw(random);
-            for (int call = 0; call < 512; call++) {
+            for (int call = 0; call < CALLS; call++) {
                 callAny(x, methods[random.nextInt(methods.length)], random);
             }
         }
