@@ -111,7 +111,7 @@ public final class EdgeActsTest {
         int calls = 0;
         for (int act : Edges.noActs()) {
             calls++;
-            if (calls % 200 == 0) {
+            if (calls % 100 == 0) {
                 x = mostActsLaw(0);
             }
             CHECK.due("17: why(2, " + act + ")", x.why(2, act), BAD);

@@ -35,6 +35,7 @@ public final class EdgeReachTest {
         forGoodByTheLastSeat();
         trapIsNoughtOrNone();
         trapBySteps();
+        trapFromWhichThereIsAWayBack();
         holdOnEitherSide();
         hangsOnAllAndOnNone();
         hangsOnlyOnWhatStands();
@@ -350,6 +351,25 @@ public final class EdgeReachTest {
         x.act(1, 400);
         CHECK.due("25: none is left", x.trap(1, 1), 0);
         CHECK.due("24: now", x.forGood(1), 1);
+    }
+
+    /** Thing 1 is lost only where thing 0 is not so: but there is a way back to that, of one step or of two. */
+    private static void trapFromWhichThereIsAWayBack() {
+        SelfLaw x = Laws.of("D0,1,0+", "D0,1,0-", "D0,1,1-?0-");
+        x.seats(0, 0, 1);
+        x.thing(1, true);
+        CHECK.due("25: one step back", x.trap(1, 11), NONE);
+        x.stand(1, 0);
+        CHECK.due("25: no way back", x.trap(1, 11), 1);
+        x = Laws.of("D0,1,0+", "D0,1,2+?0+", "D0,1,2-", "D0,1,0-?2-", "D0,1,1-?0-");
+        x.seats(0, 0, 1);
+        x.thing(1, true);
+        CHECK.due("25: two steps back", x.trap(1, 11), NONE);
+        x.stand(2, 0);
+        CHECK.due("25: the first of them is no more", x.trap(1, 11), 2);
+        x.stand(2, 1);
+        x.stand(3, 0);
+        CHECK.due("25: the second of them is no more", x.trap(1, 11), 1);
     }
 
     // ---- Promise 26; terms: "the GOAL is so in all STATES that they REACH"

@@ -19,6 +19,8 @@ public final class EdgeTurnsTest {
         theSameSetTwice();
         idleClauses();
         idleForNobody();
+        idleCanNotBePut();
+        idleIsStruckAtFirst();
         idleRowsOfThings();
         idleRefusals();
         CHECK.end();
@@ -243,18 +245,54 @@ public final class EdgeTurnsTest {
         }
     }
 
-    /** "the same rows of THINGS"; "STRUCK at first and can not be put to a FORM" */
+    /** "and can not be put to a FORM": put back by another clause it would still do it. */
+    private static void idleCanNotBePut() {
+        for (int clause = 0; clause < 5; clause++) {
+            int putter = (clause + 1) % 5;
+            String[] forms = {"", "", "", "", ""};
+            forms[clause] = "D0,1,0+";
+            forms[putter] = "C0,1," + clause;
+            SelfLaw x = Laws.of(forms);
+            x.seats(0, 0, 1);
+            CHECK.due("31: " + clause + " can not be put", x.idle(1, clause), 0);
+            CHECK.due("31: what puts it is not needed", x.idle(1, putter), 1);
+            x.stand(clause, 0);
+            CHECK.due("31: struck, it can be put: needed", x.idle(1, clause), 0);
+            CHECK.due("31: and so is what puts it", x.idle(1, putter), 0);
+        }
+    }
+
+    /** "if it is STRUCK at first": none of its FORMS counts, neither that by which it stands nor another one. */
+    private static void idleIsStruckAtFirst() {
+        for (int clause = 0; clause < 5; clause++) {
+            for (int form = 1; form <= 3; form++) {
+                SelfLaw x = new SelfLaw();
+                for (int told = 1; told <= 3; told++) {
+                    Laws.tell(x, clause, told == form ? "D0,1,3+" : "V0,1,1");
+                }
+                x.seats(0, 0, 1);
+                for (int stands = 0; stands <= 3; stands++) {
+                    x.stand(clause, stands);
+                    CHECK.due("31: form " + form + " does it", x.idle(1, clause), stands == form ? 0 : 1);
+                    CHECK.due("31: it stands as it did", x.at(clause), stands);
+                }
+            }
+        }
+    }
+
+    /** "the same rows of THINGS are in STATES that they REACH .. as are now" */
     private static void idleRowsOfThings() {
-        // Put back by clause 1 it would still do it: but it can not be put.
-        SelfLaw x = Laws.of("D0,1,0+", "C0,1,0");
-        x.seats(0, 0, 1);
-        CHECK.due("31: it can not be put", x.idle(1, 0), 0);
-        CHECK.due("31: what puts it is not needed", x.idle(1, 1), 1);
-        x.stand(0, 0);
-        CHECK.due("31: struck, it can be put: needed", x.idle(1, 0), 0);
-        CHECK.due("31: and so is what puts it", x.idle(1, 1), 0);
+        // The rows in which nothing is so, and in which all is, count like the others.
+        for (String sign : new String[] {"+", "-"}) {
+            SelfLaw y = Laws.of("D0,1,3" + sign);
+            for (int thing = 0; thing < 4; thing++) {
+                y.thing(thing, sign.equals("-") ? thing == 3 : thing != 3);
+            }
+            y.seats(0, 0, 1);
+            CHECK.due("31: a row more by " + sign, y.idle(1, 0), 0);
+        }
         // As many rows, but others: with clause 1 thing 0, without it thing 1.
-        x = Laws.of("D0,1,0+?=1,1", "B4", "D0,1,1+?=1,0");
+        SelfLaw x = Laws.of("D0,1,0+?=1,1", "B4", "D0,1,1+?=1,0");
         x.seats(0, 0, 1);
         CHECK.due("31: as many, but others", x.idle(1, 1), 0);
         // Without it there are more: a bar.
