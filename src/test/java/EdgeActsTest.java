@@ -19,6 +19,7 @@ public final class EdgeActsTest {
         firstReasonOfAll();
         actByEachReason();
         actChangesOneAlone();
+        actOnItself();
         CHECK.end();
     }
 
@@ -222,9 +223,10 @@ public final class EdgeActsTest {
                 x.stand(k, 2);
                 CHECK.due("17: no bar in force", x.why(1, 100 * k), 0);
                 x.thing(0, true);
-                CHECK.due("17: strike " + target + ", a bar of " + barred, x.why(1, 100 * k), target == barred ? 4 : 0);
+                int want = target == barred ? 4 : 0;
+                CHECK.due("17: strike " + target + ", a bar of " + barred, x.why(1, 100 * k), want);
                 x.stand(k, 3);
-                CHECK.due("17: put " + target + ", a bar of " + barred, x.why(1, 100 * k + 20), target == barred ? 4 : 0);
+                CHECK.due("17: put " + target + ", a bar of " + barred, x.why(1, 100 * k + 20), want);
             }
         }
         SelfLaw x = Laws.of("B0", "S0,1,0", "C0,1,0", "D0,1,0+");
@@ -331,5 +333,28 @@ public final class EdgeActsTest {
         x.act(3, 0);
         y.stand(1, 0);
         CHECK.due("18: struck, and nothing else", Edges.allOf(x).equals(Edges.allOf(y)) ? 1 : 0, 1);
+    }
+
+    /** A CLAUSE may put and strike itself: then it gives what it gives as it stands now. */
+    private static void actOnItself() {
+        for (int clause = 0; clause < 5; clause++) {
+            int k = 100 * clause;
+            SelfLaw x = new SelfLaw();
+            Laws.tell(x, clause, "C0,1," + clause);
+            Laws.tell(x, clause, "S0,1," + clause);
+            Laws.tell(x, clause, "C0,2," + clause);
+            x.stand(clause, 1);
+            x.seats(0, 0, 1);
+            CHECK.due("15: to two other forms", x.acts(1), 2);
+            CHECK.due("18: puts itself", x.act(1, k + 20), 0);
+            CHECK.due("11: it stands by form 2", x.at(clause), 2);
+            CHECK.due("18: it puts no more", x.act(1, k + 10), 1);
+            CHECK.due("18: strikes itself", x.act(1, k), 0);
+            CHECK.due("11: it is struck", x.at(clause), 0);
+            CHECK.due("18: it does nothing more", x.act(1, k), 1);
+            CHECK.due("15: nor does anybody", x.acts(15), 0);
+            x.stand(clause, 3);
+            CHECK.due("17: by form 3 it asks for two seats", x.why(1, k + 10), 3);
+        }
     }
 }

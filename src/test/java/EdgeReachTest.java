@@ -22,6 +22,8 @@ public final class EdgeReachTest {
         setsThatAreNone();
         goalsThatAreNone();
         goalsThatAreSome();
+        eachClauseIsPutAndStruck();
+        eachThingIsDoneAndUndone();
         theStateItselfIsReached();
         wideReach();
         amongNoneAndAll();
@@ -130,6 +132,63 @@ public final class EdgeReachTest {
         }
     }
 
+    // ---- Terms: "CLAUSES 0 .. 4", "THINGS 0 .. 3": the first and the last count like those between them
+
+    private static void eachClauseIsPutAndStruck() {
+        for (int clause = 0; clause < 5; clause++) {
+            int striker = (clause + 1) % 5;
+            int putter = (clause + 2) % 5;
+            String[] forms = {"", "", "", "", ""};
+            forms[clause] = "D0,1,0-";
+            forms[striker] = "S0,1," + clause;
+            forms[putter] = "C0,1," + clause;
+            SelfLaw x = Laws.of(forms);
+            Laws.tell(x, clause, "B" + putter);
+            x.seats(0, 0, 1);
+            x.thing(0, true);
+            int goal = 100 + 10 * clause;
+            CHECK.due("19: by each form and none, undone or not", x.reach(1), 6);
+            CHECK.due("20: struck", x.among(1, goal), 2);
+            CHECK.due("21: strike it", x.shortest(1, goal), 1);
+            CHECK.due("22: strike it", x.step(1, goal, 0), 100 * striker);
+            CHECK.due("22: put it", x.step(1, goal + 2, 0), 100 * putter + 20);
+            CHECK.due("23: one strikes it", x.who(goal), 1);
+            CHECK.due("24: it is put back", x.forGood(goal + 1), 0);
+            CHECK.due("25: it is put back", x.trap(1, 1), NONE);
+            CHECK.due("26: it is struck", x.hold(1, goal + 1), 0);
+            CHECK.due("27: it is struck", x.hangs(1, goal + 1), NONE);
+            CHECK.due("28: a bar of it", x.remedy(1, goal + 1), clause);
+            CHECK.due("29: it is struck", x.sure(0, 1, goal + 1, 1), 0);
+            CHECK.due("30: strike it", x.begin(1, 0, goal, 1), 100 * striker);
+            x.stand(putter, 0);
+            CHECK.due("25: struck for good", x.trap(1, 1), 1);
+            CHECK.due("25: it too", x.trap(1, goal), 1);
+            x.stand(striker, 0);
+            CHECK.due("27: it hangs on itself", x.hangs(1, goal + 1), 1 << clause);
+        }
+    }
+
+    private static void eachThingIsDoneAndUndone() {
+        for (int thing = 0; thing < 4; thing++) {
+            SelfLaw x = Laws.of("D0,1," + thing + "+", "D0,2," + thing + "-");
+            x.seats(0, 0, 1);
+            int goal = 10 * thing;
+            CHECK.due("19: so or not", x.reach(1), 2);
+            CHECK.due("20: so", x.among(1, goal + 1), 1);
+            CHECK.due("21: do it", x.shortest(1, goal + 1), 1);
+            CHECK.due("23: one does it", x.who(goal + 1), 1);
+            CHECK.due("25: nobody undoes it", x.trap(1, goal + 1), 1);
+            CHECK.due("26: it comes about", x.hold(1, goal), 0);
+            x.seats(0, 1, 1);
+            CHECK.due("25: both undo it", x.trap(1, goal + 1), NONE);
+            x.thing(thing, true);
+            CHECK.due("23: both undo it", x.who(goal), 3);
+            CHECK.due("24: both undo it", x.forGood(goal + 1), 0);
+            CHECK.due("26: one does not", x.hold(1, goal + 1), 1);
+            CHECK.due("27: it hangs on no clause", x.hangs(2, goal + 1), 0);
+        }
+    }
+
     // ---- Promises 19, 20; terms: "REACHED by a set: THE STATE (as it is now), and all that they come to"
 
     private static void theStateItselfIsReached() {
@@ -141,7 +200,9 @@ public final class EdgeReachTest {
         }
         x = Laws.of("D0,1,0+");
         x.seats(0, 0, 1);
-        CHECK.due("19: one act", x.reach(1), 2);
+        for (int set = 0; set < 16; set++) {
+            CHECK.due("19: one act for group 0: reach(" + set + ")", x.reach(set), 1 + set % 2);
+        }
         x.thing(0, true);
         CHECK.due("19: as it is now", x.reach(1), 1);
     }
@@ -250,6 +311,11 @@ public final class EdgeReachTest {
         x.seats(0, 0, 1);
         CHECK.due("21: one act", x.shortest(1, 31), 1);
         CHECK.due("22: the higher", x.step(1, 31, 0), 400);
+        // Two first acts to one and the same state, and two from there: each time the lower.
+        x = Laws.of("", "D0,1,1+", "D0,1,3+?1+", "D0,1,1+", "D0,1,3+?1+");
+        x.seats(0, 0, 1);
+        CHECK.due("22: the lower of two to the same", x.step(1, 31, 0), 100);
+        CHECK.due("22: and again", x.step(1, 31, 1), 200);
         // Of forms the lower one.
         x = Laws.of("C0,1,1", "", "D0,1,3+?1+", "D0,1,3+?2+");
         Laws.tell(x, 1, "D0,1,2+");
@@ -418,6 +484,12 @@ public final class EdgeReachTest {
         x.seats(0, 0, 1);
         CHECK.due("27: though it could be put back", x.hangs(1, 0), 2);
         CHECK.due("9: nothing was struck", x.at(1), 1);
+        // It bars itself while it stands; struck, it can be put to a form that does it.
+        x = Laws.of("C0,1,1", "B1");
+        Laws.tell(x, 1, "D0,1,0+");
+        x.seats(0, 0, 1);
+        CHECK.due("26: it can not be put now", x.hold(1, 0), 1);
+        CHECK.due("27: struck at first it can be put", x.hangs(1, 0), 2);
     }
 
     // ---- Promise 28: "THE REMEDY; NONE: by none (also if the GOAL is not so now)."

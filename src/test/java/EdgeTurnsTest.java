@@ -105,9 +105,10 @@ public final class EdgeTurnsTest {
             SelfLaw x = chainOfEight();
             CHECK.due("21: to " + goals[i], x.shortest(1, goals[i]), acts[i]);
             for (int turns = 1; turns <= 8; turns++) {
-                CHECK.due("29: " + goals[i] + " in " + turns, x.sure(1, 0, goals[i], turns), turns >= acts[i] ? 1 : 0);
+                String game = goals[i] + " in " + turns;
+                CHECK.due("29: " + game, x.sure(1, 0, goals[i], turns), turns >= acts[i] ? 1 : 0);
                 // It must begin at once only if there is no turn to spare.
-                CHECK.due("30: " + goals[i] + " in " + turns, x.begin(1, 0, goals[i], turns), turns == acts[i] ? 0 : NONE);
+                CHECK.due("30: " + game, x.begin(1, 0, goals[i], turns), turns == acts[i] ? 0 : NONE);
             }
         }
         SelfLaw x = chainOfEight();
