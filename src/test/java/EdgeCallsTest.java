@@ -11,6 +11,7 @@ public final class EdgeCallsTest {
 
     public static void main(String[] args) {
         refusedCallsChangeNothing();
+        refusedAsksChangeNothing();
         refusedByAFullRollChangesNothing();
         refusedByAFullTextChangesNothing();
         asksChangeNothing();
@@ -75,6 +76,45 @@ public final class EdgeCallsTest {
         changesNothing("36: again(3)", x -> x.again(3), UNKNOWN);
         changesNothing("36: again(2), where nothing is kept", x -> x.again(2), LATE);
         changesNothing("37: count(6)", x -> x.count(6), BAD);
+    }
+
+    private static void refusedAsksChangeNothing() {
+        changesNothing("11: at(5)", x -> x.at(5), UNKNOWN);
+        changesNothing("12: force(-1)", x -> x.force(-1), UNKNOWN);
+        changesNothing("13: votes(16, 0)", x -> x.votes(16, 0), BAD);
+        changesNothing("13: votes(15, 3)", x -> x.votes(15, 3), UNKNOWN);
+        changesNothing("14: is(2)", x -> x.is(2), BAD);
+        changesNothing("15: acts(16)", x -> x.acts(16), BAD);
+        changesNothing("16: which(-1, 0)", x -> x.which(-1, 0), BAD);
+        changesNothing("17: why(16, 20)", x -> x.why(16, 20), BAD);
+        changesNothing("17: why(15, 25)", x -> x.why(15, 25), BAD);
+        changesNothing("19: reach(16)", x -> x.reach(16), BAD);
+        changesNothing("20: among(16, 11)", x -> x.among(16, 11), BAD);
+        changesNothing("20: among(15, 12)", x -> x.among(15, 12), BAD);
+        changesNothing("21: shortest(16, 112)", x -> x.shortest(16, 112), BAD);
+        changesNothing("21: shortest(15, 114)", x -> x.shortest(15, 114), BAD);
+        changesNothing("22: step(-1, 112, 0)", x -> x.step(-1, 112, 0), BAD);
+        changesNothing("22: step(15, 40, 0)", x -> x.step(15, 40, 0), BAD);
+        changesNothing("23: who(150)", x -> x.who(150), BAD);
+        changesNothing("24: forGood(-1)", x -> x.forGood(-1), BAD);
+        changesNothing("25: trap(16, 11)", x -> x.trap(16, 11), BAD);
+        changesNothing("25: trap(15, 99)", x -> x.trap(15, 99), BAD);
+        changesNothing("26: hold(16, 101)", x -> x.hold(16, 101), BAD);
+        changesNothing("26: hold(15, 32)", x -> x.hold(15, 32), BAD);
+        changesNothing("27: hangs(-1, 101)", x -> x.hangs(-1, 101), BAD);
+        changesNothing("27: hangs(15, 104)", x -> x.hangs(15, 104), BAD);
+        changesNothing("28: remedy(16, 111)", x -> x.remedy(16, 111), BAD);
+        changesNothing("28: remedy(15, 150)", x -> x.remedy(15, 150), BAD);
+        changesNothing("29: sure(16, 2, 11, 8)", x -> x.sure(16, 2, 11, 8), BAD);
+        changesNothing("29: sure(1, 16, 11, 8)", x -> x.sure(1, 16, 11, 8), BAD);
+        changesNothing("29: sure(1, 2, 12, 8)", x -> x.sure(1, 2, 12, 8), BAD);
+        changesNothing("29: sure(1, 2, 11, 9)", x -> x.sure(1, 2, 11, 9), BAD);
+        changesNothing("30: begin(16, 2, 11, 1)", x -> x.begin(16, 2, 11, 1), BAD);
+        changesNothing("30: begin(1, -1, 11, 1)", x -> x.begin(1, -1, 11, 1), BAD);
+        changesNothing("30: begin(1, 2, 40, 1)", x -> x.begin(1, 2, 40, 1), BAD);
+        changesNothing("30: begin(1, 2, 11, 0)", x -> x.begin(1, 2, 11, 0), BAD);
+        changesNothing("31: idle(16, 1)", x -> x.idle(16, 1), BAD);
+        changesNothing("31: idle(15, 5)", x -> x.idle(15, 5), UNKNOWN);
     }
 
     private static void refusedByAFullRollChangesNothing() {
